@@ -25,11 +25,11 @@ public final class CellDays {
     public int set(int what, int v) {
         switch (what) {
             case 0:
-                return cell.changeRoom(v);
+                return within(v, 1, 5000) ? cell.changeRoom(v) : BAD;
             case 1:
-                return cell.changeLeak(v);
+                return within(v, 0, 20) ? cell.changeLeak(v) : BAD;
             case 2:
-                return cell.changeBar(v);
+                return within(v, 1, 500) ? cell.changeBar(v) : BAD;
             default:
                 return BAD;
         }
@@ -263,27 +263,18 @@ public final class CellDays {
         private int bar = 50;
 
         int changeRoom(int v) {
-            if (!within(v, 1, 5000)) {
-                return BAD;
-            }
             int was = room;
             room = v;
             return was;
         }
 
         int changeLeak(int v) {
-            if (!within(v, 0, 20)) {
-                return BAD;
-            }
             int was = leak;
             leak = v;
             return was;
         }
 
         int changeBar(int v) {
-            if (!within(v, 1, 500)) {
-                return BAD;
-            }
             int was = bar;
             bar = v;
             return was;
@@ -314,8 +305,7 @@ public final class CellDays {
         }
 
         /** Below 0: it does not last the day; once below, it stays so. */
-        private int chargeBehind(int charge, int day, int leaking, int load) {
-            int share = shareOn(day);
+        int chargeBehind(int charge, int share, int leaking, int load) {
             if (charge < 0 || share <= 0) {
                 return -1;
             }
@@ -328,7 +318,7 @@ public final class CellDays {
         int chargeFrom(int charge, int from, int to, int leaking, int load) {
             int left = charge;
             for (int day = from; day < to && left >= 0; day++) {
-                left = chargeBehind(left, day, leaking, load);
+                left = chargeBehind(left, shareOn(day), leaking, load);
             }
             return left;
         }
@@ -340,7 +330,7 @@ public final class CellDays {
         int daysLasted(int load) {
             int left = chargeAtFirst();
             for (int day = 0; day < DAYS; day++) {
-                left = chargeBehind(left, day, leak, load);
+                left = chargeBehind(left, shareOn(day), leak, load);
                 if (left < 0) {
                     return day;
                 }
@@ -354,7 +344,7 @@ public final class CellDays {
         }
     }
 
-    /** One duty. Each kind's drain builds on that of the kind that stands over it. */
+    /** One duty of a device. */
     private static final class Duty {
         private final int kind;
         private final int load;
@@ -375,27 +365,13 @@ public final class CellDays {
             this.isOn = true;
         }
 
+        /** Each kind goes on from what the kind that stands over it does. */
         int drainBy(int t, int bar) {
-            switch (kind) {
-                case STEADY:
-                    return steadyDrain();
-                case BURST:
-                    return burstDrain(bar);
-                default:
-                    return tryDrain(t, bar);
+            int drained = load * times;
+            if (kind != STEADY) {
+                drained += peak + Math.max(0, peak - bar);
             }
-        }
-
-        private int steadyDrain() {
-            return load * times;
-        }
-
-        private int burstDrain(int bar) {
-            return steadyDrain() + peak + Math.max(0, peak - bar);
-        }
-
-        private int tryDrain(int t, int bar) {
-            return burstDrain(bar) * Math.min(t, tries);
+            return kind == TRY ? drained * Math.min(t, tries) : drained;
         }
 
         /** A kind's body asks the one over it once, so the bodies' numbers add up. */
@@ -422,6 +398,10 @@ public final class CellDays {
 
         Duty numbered(int number) {
             return number >= 0 && number < size && number < row.length ? row[number] : null;
+        }
+
+        private Duty numberedIn(int set, int number) {
+            return (set >> number & 1) == 1 ? numbered(number) : null;
         }
 
         int add(Duty added) {
@@ -456,8 +436,8 @@ public final class CellDays {
         int loadOf(int set, int t, int bar) {
             int sum = 0;
             for (int i = 0; i < size; i++) {
-                Duty one = numbered(i);
-                if (one != null && (set >> i & 1) == 1) {
+                Duty one = numberedIn(set, i);
+                if (one != null) {
                     sum += one.drainBy(t, bar);
                 }
             }
@@ -467,8 +447,8 @@ public final class CellDays {
         int worthOf(int set) {
             int sum = 0;
             for (int i = 0; i < size; i++) {
-                Duty one = numbered(i);
-                if (one != null && (set >> i & 1) == 1) {
+                Duty one = numberedIn(set, i);
+                if (one != null) {
                     sum += one.worth;
                 }
             }
@@ -604,7 +584,10 @@ public final class CellDays {
             return agreed > 0;
         }
 
-        /** All agreeing cases go through the days side by side: one row of charges serves every day. */
+        /**
+         * All agreeing cases go through the days side by side, so one row of charges serves every day.
+         * A level never rises again: once all stand at 0, no later day tells anything.
+         */
         int dayThatTellsMost() {
             if (agreed < 2) {
                 return NONE;
@@ -617,6 +600,9 @@ public final class CellDays {
                 if (greatest < least) {
                     least = greatest;
                     best = day;
+                }
+                if (at(atLevel, 0) == agreed) {
+                    break;
                 }
                 passDay(day);
             }
@@ -645,9 +631,10 @@ public final class CellDays {
         }
 
         private void passDay(int day) {
+            int share = cell.shareOn(day);
             for (int k = 0; k < agreed; k++) {
                 int leaking = leakOf(at(agreeing, k));
-                put(charges, k, cell.chargeFrom(at(charges, k), day, day + 1, leaking, at(loads, k)));
+                put(charges, k, cell.chargeBehind(at(charges, k), share, leaking, at(loads, k)));
             }
         }
     }

@@ -401,14 +401,21 @@ public final class PromiseTests {
         refused(x, "18 what 4", BAD, y -> y.field(4));
     }
 
-    /** With tries that all drain otherwise, signs can leave a single case. */
-    private static void fieldOfOne() {
+    /** With tries that all drain otherwise, signs can leave a single case, or just two. */
+    private static void fieldOfFew() {
         CellDays x = new CellDays();
         x.set(0, 1);
         x.set(1, 0);
         x.duty(2, 1, 1, 0, 5, 1);
         x.sign(399, 6);
         fields(x, "one case", 1, 0, 0, NONE);
+        x.forget();
+        x.sign(399, 2);
+        fields(x, "two cases, 2 a day by tries or by age", 2, 5, 0, 0);
+        x.forget();
+        x.sign(34, 1);
+        x.sign(25, 4);
+        fields(x, "three that part behind level 1, two at 88 and one at 105", 3, 16, 1, 38);
     }
 
     private static void count() {
@@ -467,7 +474,7 @@ public final class PromiseTests {
         level();
         agrees();
         field();
-        fieldOfOne();
+        fieldOfFew();
         count();
         trace();
         DUE.end();

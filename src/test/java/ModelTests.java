@@ -1,6 +1,7 @@
 /** Long runs of calls, always the same ones, laid against the model. */
 public final class ModelTests {
-    private static final int RUNS = 300, CALLS = 250;
+    /** A round makes two calls at most, so a run stays within the 512 that are promised. */
+    private static final int RUNS = 300, ROUNDS = 250;
 
     private final Due due = new Due();
     private long seed = 20261116L;
@@ -143,7 +144,7 @@ public final class ModelTests {
                 look("set(0, " + room + ")", m.set(0, room), x.set(0, room));
                 look("set(1, " + leak + ")", m.set(1, leak), x.set(1, leak));
             }
-            for (int i = 0; i < CALLS; i++) {
+            for (int i = 0; i < ROUNDS; i++) {
                 call();
             }
         }

@@ -10,33 +10,21 @@ public final class PromiseTests {
     }
 
     /** A cell of 1000 thousandths that loses nothing by itself. */
-    private static CellDays small() {
-        CellDays x = new CellDays();
+    private static Probe small() {
+        Probe x = new Probe();
         x.set(0, 1);
         x.set(1, 0);
         return x;
     }
 
-    /** All that can be seen without changing anything. */
-    private static String seen(CellDays x) {
-        StringBuilder text = new StringBuilder();
-        for (int i = 0; i < 6; i++) text.append(x.count(i)).append(' ');
-        for (int d = 0; d < 13; d++) text.append(x.share(d)).append(' ');
-        for (int t = 1; t <= 5; t++) text.append(x.life(t)).append(' ').append(x.charge(3, t)).append(' ');
-        for (int i = 0; i < 8; i++) text.append(x.price(i)).append(' ');
-        for (int i = 0; i < 3; i++) text.append(x.plan(20, i)).append(' ');
-        for (int i = 0; i < 4; i++) text.append(x.field(i)).append(' ');
-        return text.append(x.level(149, 2)).append(' ').append(x.trace()).toString();
-    }
-
-    private static void refused(CellDays x, String call, int due, ToIntFunction<CellDays> made) {
-        String ahead = seen(x);
-        is(call, due, made.applyAsInt(x));
-        DUE.same("state behind " + call, ahead, seen(x));
+    private static void refused(Probe x, String call, int due, ToIntFunction<Probe> made) {
+        Probe called = x.again();
+        is(call, due, made.applyAsInt(called));
+        DUE.same("state behind " + call, x.again().seen(), called.seen());
     }
 
     private static void newObject() {
-        CellDays x = new CellDays();
+        Probe x = new Probe();
         int[] counts = {0, 0, 0, 1000, 1, 50};
         for (int i = 0; i < 6; i++) is("1 count", counts[i], x.count(i));
         is("1 trace", 0, x.trace());
@@ -47,12 +35,12 @@ public final class PromiseTests {
         is("1 cold", 70, x.share(2));
         is("1 no sign, so all agree", 150, x.field(0));
         is("1 no duty", 400, x.life(5));
-        new CellDays().set(0, 7);
-        is("1 objects share nothing", 1000, new CellDays().count(3));
+        new Probe().set(0, 7);
+        is("1 objects share nothing", 1000, new Probe().count(3));
     }
 
     private static void set() {
-        CellDays x = new CellDays();
+        Probe x = new Probe();
         int[][] rows = {{0, 1000, 1, 5000, 3}, {1, 1, 0, 20, 4}, {2, 50, 1, 500, 5}};
         for (int[] row : rows) {
             is("2 was", row[1], x.set(row[0], row[2]));
@@ -70,7 +58,7 @@ public final class PromiseTests {
     }
 
     private static void shares() {
-        CellDays x = new CellDays();
+        Probe x = new Probe();
         x.season(3, 21);
         is("3 taken", 1, x.shares(80, 60, 40));
         is("3 a", 80, x.share(0));
@@ -88,7 +76,7 @@ public final class PromiseTests {
     }
 
     private static void season() {
-        CellDays x = new CellDays();
+        Probe x = new Probe();
         is("4 n", 4, x.season(4, 2 + 3 * 1 + 9 * 0 + 27 * 1));
         int[] four = {70, 90, 100, 90};
         for (int d = 0; d < 400; d++) is("4 share of day " + d, four[d % 4], x.share(d));
@@ -110,7 +98,7 @@ public final class PromiseTests {
     }
 
     private static void share() {
-        CellDays x = new CellDays();
+        Probe x = new Probe();
         x.season(7, 3 * 3 * 3 * 3 * 3 * 3 * 2);
         is("5 day 0", 100, x.share(0));
         is("5 day 6", 70, x.share(6));
@@ -122,7 +110,7 @@ public final class PromiseTests {
     }
 
     private static void duty() {
-        CellDays x = new CellDays();
+        Probe x = new Probe();
         is("6 steady, peak and tries not looked at", 0, x.duty(0, 1, 1, -7, 77, 0));
         is("6 burst, tries not looked at", 1, x.duty(1, 100, 20, 100, -7, 100));
         is("6 try", 2, x.duty(2, 50, 10, 0, 5, 50));
@@ -143,7 +131,7 @@ public final class PromiseTests {
     }
 
     private static void on() {
-        CellDays x = small();
+        Probe x = small();
         x.duty(0, 100, 1, 0, 0, 1);
         x.duty(0, 50, 1, 0, 0, 1);
         is("7 was ON", 1, x.on(0, false));
@@ -159,8 +147,8 @@ public final class PromiseTests {
     }
 
     private static void drop() {
-        CellDays x = small();
-        refused(x, "8 none", STATE, CellDays::drop);
+        Probe x = small();
+        refused(x, "8 none", STATE, Probe::drop);
         x.duty(0, 100, 1, 0, 0, 1);
         x.duty(0, 50, 1, 0, 0, 1);
         x.on(1, false);
@@ -171,11 +159,11 @@ public final class PromiseTests {
         is("8 one left", 1, x.drop());
         is("8 none left", 0, x.drop());
         refused(x, "8 gone", BAD, y -> y.on(0, true));
-        refused(x, "8 none again", STATE, CellDays::drop);
+        refused(x, "8 none again", STATE, Probe::drop);
     }
 
     private static void drain() {
-        CellDays x = new CellDays();
+        Probe x = new Probe();
         x.duty(0, 7, 6, 90, 1, 0);
         x.duty(1, 7, 6, 50, 1, 0);
         x.duty(1, 7, 6, 51, 1, 0);
@@ -205,7 +193,7 @@ public final class PromiseTests {
     }
 
     private static void life() {
-        CellDays x = small();
+        Probe x = small();
         is("10 at most 400", 400, x.life(1));
         x.duty(0, 100, 1, 0, 0, 1);
         is("10 down to 0 just lasts", 10, x.life(3));
@@ -231,7 +219,7 @@ public final class PromiseTests {
     }
 
     private static void charge() {
-        CellDays x = small();
+        Probe x = small();
         x.set(1, 20);
         int[] leaking = {980, 960, 940, 921};
         for (int d = 0; d < 4; d++) is("11 leak rounded up", leaking[d], x.charge(d, 1));
@@ -260,7 +248,7 @@ public final class PromiseTests {
     }
 
     private static void price() {
-        CellDays x = small();
+        Probe x = small();
         x.duty(0, 100, 1, 0, 0, 1);
         x.duty(0, 50, 1, 0, 0, 1);
         is("12 of the first", 20 - 6, x.price(0));
@@ -276,14 +264,14 @@ public final class PromiseTests {
         refused(x, "12 far", BAD, y -> y.price(32));
     }
 
-    private static void planned(CellDays x, int n, int set, int worth, int sure) {
+    private static void planned(Probe x, int n, int set, int worth, int sure) {
         is("13 set for " + n, set, x.plan(n, 0));
         is("13 worth for " + n, worth, x.plan(n, 1));
         is("13 sure for " + n, sure, x.plan(n, 2));
     }
 
     private static void plan() {
-        CellDays x = small();
+        Probe x = small();
         planned(x, 400, 0, 0, 400);
         x.duty(0, 100, 1, 0, 0, 5);
         x.duty(0, 50, 1, 0, 0, 5);
@@ -306,13 +294,13 @@ public final class PromiseTests {
         refused(x, "13 n 401", BAD, y -> y.plan(401, 0));
         refused(x, "13 what -1", BAD, y -> y.plan(1, -1));
         refused(x, "13 what 3", BAD, y -> y.plan(1, 3));
-        CellDays all = new CellDays();
+        Probe all = new Probe();
         for (int i = 0; i < 8; i++) all.duty(0, 1, 1, 0, 0, 100);
         planned(all, 400, 255, 800, 400);
     }
 
     private static void sign() {
-        CellDays x = small();
+        Probe x = small();
         is("14 first", 1, x.sign(0, 9));
         is("14 on the same day", 2, x.sign(0, 9));
         is("14 last day", 3, x.sign(399, 0));
@@ -327,8 +315,8 @@ public final class PromiseTests {
     }
 
     private static void forget() {
-        CellDays x = small();
-        refused(x, "15 none", STATE, CellDays::forget);
+        Probe x = small();
+        refused(x, "15 none", STATE, Probe::forget);
         x.sign(300, 9);
         x.sign(0, 0);
         is("15 no case has 0 at first", 0, x.field(0));
@@ -336,11 +324,11 @@ public final class PromiseTests {
         is("15 the sign of day 300 stands", 5, x.field(0));
         is("15 none left", 0, x.forget());
         is("15 all agree again", 150, x.field(0));
-        refused(x, "15 none again", STATE, CellDays::forget);
+        refused(x, "15 none again", STATE, Probe::forget);
     }
 
     private static void level() {
-        CellDays x = small();
+        Probe x = small();
         x.duty(2, 10, 1, 0, 3, 1);
         int[][] rows = {
             {0, 0, 9}, {149, 0, 9}, {0, 10, 9}, {0, 11, 8}, {0, 90, 1}, {0, 91, 0}, {0, 100, 0}, {0, 101, 0}, {0, 399, 0},
@@ -360,7 +348,7 @@ public final class PromiseTests {
     }
 
     private static void agrees() {
-        CellDays x = small();
+        Probe x = small();
         x.duty(2, 10, 1, 0, 3, 1);
         is("17 no sign", 1, x.agrees(149));
         x.sign(7, 8);
@@ -375,7 +363,7 @@ public final class PromiseTests {
         refused(x, "17 number 150", BAD, y -> y.agrees(150));
     }
 
-    private static void fields(CellDays x, String when, int agreed, int least, int odd, int day) {
+    private static void fields(Probe x, String when, int agreed, int least, int odd, int day) {
         is("18 agreed, " + when, agreed, x.field(0));
         is("18 least, " + when, least, x.field(1));
         is("18 odd, " + when, odd, x.field(2));
@@ -384,7 +372,7 @@ public final class PromiseTests {
 
     /** Without duties the tries change nothing, so cases come in fives; 20 a day is x 1. */
     private static void field() {
-        CellDays x = small();
+        Probe x = small();
         x.sign(40, 2);
         fields(x, "only x 1 of age 0, all alike on all days", 5, 1, 1, 0);
         x.sign(40, 3);
@@ -403,7 +391,7 @@ public final class PromiseTests {
 
     /** With tries that all drain otherwise, signs can leave a single case, or just two. */
     private static void fieldOfFew() {
-        CellDays x = new CellDays();
+        Probe x = new Probe();
         x.set(0, 1);
         x.set(1, 0);
         x.duty(2, 1, 1, 0, 5, 1);
@@ -419,7 +407,7 @@ public final class PromiseTests {
     }
 
     private static void count() {
-        CellDays x = new CellDays();
+        Probe x = new Probe();
         x.duty(0, 1, 1, 0, 0, 1);
         x.duty(0, 1, 1, 0, 0, 1);
         x.duty(0, 1, 1, 0, 0, 1);
@@ -435,11 +423,13 @@ public final class PromiseTests {
     }
 
     private static void trace() {
-        CellDays x = new CellDays();
+        Probe x = new Probe();
         x.duty(0, 1, 1, 0, 0, 1);
         x.duty(1, 1, 1, 9, 0, 1);
         x.duty(2, 1, 1, 9, 2, 1);
-        seen(x);
+        x.life(5);
+        x.plan(1, 0);
+        x.field(3);
         is("20 only drain() comes to it", 0, x.trace());
         x.drain(0, 1);
         is("20 steady", 1, x.trace());

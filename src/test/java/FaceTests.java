@@ -6,6 +6,8 @@ import java.nio.file.Files;
 import java.nio.file.Path;
 import java.util.Set;
 import java.util.TreeSet;
+import java.util.regex.Matcher;
+import java.util.regex.Pattern;
 
 /** The face is the document's and nothing beside it; the source keeps out of what LANGUAGE.md rules out. */
 public final class FaceTests {
@@ -79,12 +81,53 @@ public final class FaceTests {
             DUE.holds("no word " + word, !code.matches("(?s).*\\b" + word + "\\b.*"));
         }
         DUE.holds("no lambda, no method reference", !code.contains("->") && !code.contains("::"));
+        library(code);
+    }
+
+    private static void library(String code) {
+        Set<String> own = new TreeSet<>();
+        for (Class<?> inside : CellDays.class.getDeclaredClasses()) own.add(inside.getSimpleName());
+        Matcher used = Pattern.compile("\\b([A-Z]\\w*[a-z]\\w*)\\.(\\w+)").matcher(code);
+        while (used.find()) {
+            if (own.contains(used.group(1))) continue;
+            boolean listed = used.group(1).matches("Math|Integer|Long") && !used.group(2).endsWith("Exact")
+                || used.group().matches("System\\.arraycopy|Arrays\\.(copyOf|copyOfRange|fill)");
+            DUE.holds("rule 4 lists " + used.group(), listed);
+        }
+    }
+
+    /** Bounds that LANGUAGE.md sets to every class of the file. */
+    private static void classes() {
+        Class<?>[] inside = CellDays.class.getDeclaredClasses();
+        DUE.holds("some twelve classes at most", inside.length < 12);
+        bounds(CellDays.class);
+        for (Class<?> one : inside) {
+            DUE.is(one.getName() + " is not open", 0, one.getModifiers() & (Modifier.PUBLIC | Modifier.PROTECTED));
+            bounds(one);
+        }
+    }
+
+    private static void bounds(Class<?> one) {
+        int held = 0;
+        for (Field field : one.getDeclaredFields()) {
+            boolean still = Modifier.isStatic(field.getModifiers());
+            held += still ? 0 : 1;
+            DUE.holds(field + " is final, if static", !still || Modifier.isFinal(field.getModifiers()));
+        }
+        DUE.holds("some twenty fields at most in " + one.getName(), held <= 20);
+        for (Method method : one.getDeclaredMethods()) {
+            DUE.holds("seven parameters at most of " + method, method.getParameterCount() <= 7);
+        }
+        for (Constructor<?> made : one.getDeclaredConstructors()) {
+            DUE.holds("seven parameters at most of " + made, made.getParameterCount() <= 7);
+        }
     }
 
     public static void main(String[] args) throws Exception {
         methods();
         fields();
         shape();
+        classes();
         source();
         DUE.end();
     }

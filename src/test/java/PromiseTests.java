@@ -9,14 +9,6 @@ public final class PromiseTests {
         DUE.is(call, due, got);
     }
 
-    /** A cell of 1000 thousandths that loses nothing by itself. */
-    private static Probe small() {
-        Probe x = new Probe();
-        x.set(0, 1);
-        x.set(1, 0);
-        return x;
-    }
-
     private static void refused(Probe x, String call, int due, ToIntFunction<Probe> made) {
         Probe called = x.again();
         is(call, due, made.applyAsInt(called));
@@ -131,7 +123,7 @@ public final class PromiseTests {
     }
 
     private static void on() {
-        Probe x = small();
+        Probe x = Bounds.small();
         x.duty(0, 100, 1, 0, 0, 1);
         x.duty(0, 50, 1, 0, 0, 1);
         is("7 was ON", 1, x.on(0, false));
@@ -147,7 +139,7 @@ public final class PromiseTests {
     }
 
     private static void drop() {
-        Probe x = small();
+        Probe x = Bounds.small();
         refused(x, "8 none", STATE, Probe::drop);
         x.duty(0, 100, 1, 0, 0, 1);
         x.duty(0, 50, 1, 0, 0, 1);
@@ -193,7 +185,7 @@ public final class PromiseTests {
     }
 
     private static void life() {
-        Probe x = small();
+        Probe x = Bounds.small();
         is("10 at most 400", 400, x.life(1));
         x.duty(0, 100, 1, 0, 0, 1);
         is("10 down to 0 just lasts", 10, x.life(3));
@@ -219,7 +211,7 @@ public final class PromiseTests {
     }
 
     private static void charge() {
-        Probe x = small();
+        Probe x = Bounds.small();
         x.set(1, 20);
         int[] leaking = {980, 960, 940, 921};
         for (int d = 0; d < 4; d++) is("11 leak rounded up", leaking[d], x.charge(d, 1));
@@ -248,7 +240,7 @@ public final class PromiseTests {
     }
 
     private static void price() {
-        Probe x = small();
+        Probe x = Bounds.small();
         x.duty(0, 100, 1, 0, 0, 1);
         x.duty(0, 50, 1, 0, 0, 1);
         is("12 of the first", 20 - 6, x.price(0));
@@ -271,7 +263,7 @@ public final class PromiseTests {
     }
 
     private static void plan() {
-        Probe x = small();
+        Probe x = Bounds.small();
         planned(x, 400, 0, 0, 400);
         x.duty(0, 100, 1, 0, 0, 5);
         x.duty(0, 50, 1, 0, 0, 5);
@@ -300,7 +292,7 @@ public final class PromiseTests {
     }
 
     private static void sign() {
-        Probe x = small();
+        Probe x = Bounds.small();
         is("14 first", 1, x.sign(0, 9));
         is("14 on the same day", 2, x.sign(0, 9));
         is("14 last day", 3, x.sign(399, 0));
@@ -315,7 +307,7 @@ public final class PromiseTests {
     }
 
     private static void forget() {
-        Probe x = small();
+        Probe x = Bounds.small();
         refused(x, "15 none", STATE, Probe::forget);
         x.sign(300, 9);
         x.sign(0, 0);
@@ -328,7 +320,7 @@ public final class PromiseTests {
     }
 
     private static void level() {
-        Probe x = small();
+        Probe x = Bounds.small();
         x.duty(2, 10, 1, 0, 3, 1);
         int[][] rows = {
             {0, 0, 9}, {149, 0, 9}, {0, 10, 9}, {0, 11, 8}, {0, 90, 1}, {0, 91, 0}, {0, 100, 0}, {0, 101, 0}, {0, 399, 0},
@@ -348,7 +340,7 @@ public final class PromiseTests {
     }
 
     private static void agrees() {
-        Probe x = small();
+        Probe x = Bounds.small();
         x.duty(2, 10, 1, 0, 3, 1);
         is("17 no sign", 1, x.agrees(149));
         x.sign(7, 8);
@@ -372,7 +364,7 @@ public final class PromiseTests {
 
     /** Without duties the tries change nothing, so cases come in fives; 20 a day is x 1. */
     private static void field() {
-        Probe x = small();
+        Probe x = Bounds.small();
         x.sign(40, 2);
         fields(x, "only x 1 of age 0, all alike on all days", 5, 1, 1, 0);
         x.sign(40, 3);
